@@ -664,21 +664,20 @@ public final class TreeKayles {
         }
 
         private int treeCount() {
-            int trees = 0;
-            int left = there;
-            for (int turn = 0; turn < MOST_NODES && left != 0; turn++) {
-                left &= ~graph.reach(Integer.numberOfTrailingZeros(left), there);
-                trees++;
+            for (int number = 0; number < MOST_NODES; number++) {
+                if (treeAt(number) == 0) {
+                    return number;
+                }
             }
-            return trees;
+            return MOST_NODES;
         }
 
         /** The nodes of the tree with this number; none if there is no such tree. */
         private int treeAt(int number) {
             int left = there;
-            for (int turn = 0; turn < MOST_NODES && left != 0; turn++) {
+            for (int passed = 0; passed < MOST_NODES && left != 0; passed++) {
                 int tree = graph.reach(Integer.numberOfTrailingZeros(left), there);
-                if (turn == number) {
+                if (passed == number) {
                     return tree;
                 }
                 left &= ~tree;
@@ -687,13 +686,10 @@ public final class TreeKayles {
         }
 
         private int treeNumber(int node) {
-            int left = there;
-            for (int turn = 0; turn < MOST_NODES && left != 0; turn++) {
-                int tree = graph.reach(Integer.numberOfTrailingZeros(left), there);
-                if (has(tree, node)) {
-                    return turn;
+            for (int number = 0; number < MOST_NODES; number++) {
+                if (has(treeAt(number), node)) {
+                    return number;
                 }
-                left &= ~tree;
             }
             return NONE;
         }

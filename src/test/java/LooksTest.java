@@ -1,3 +1,6 @@
+import java.util.ArrayList;
+import java.util.List;
+
 /** Promises 16 to 25: nodeOf, tree, count, best, length, mirror, ifJoined, value, openingShare, digest. */
 public final class LooksTest {
     /** The values of ways of 0 to 14 nodes: the well-known row of Dawson's chess. */
@@ -12,6 +15,7 @@ public final class LooksTest {
         promise16NodeOfFails();
         promise17Tree();
         promise17TreeClasses();
+        promise17TreeClassesOfAllTrees();
         promise17TreeMirrorsAndWays();
         promise17TreeFails();
         promise18Count();
@@ -26,6 +30,8 @@ public final class LooksTest {
         promise23Value();
         promise24OpeningShare();
         promise25Digest();
+        promise25DigestOfOneNode();
+        promise25DigestOfAStar();
         promise25DigestOfTheWholeState();
         due.end("LooksTest");
     }
@@ -136,6 +142,40 @@ public final class LooksTest {
         due.is("a class of its own", 1, seven.tree(1, 3));
     }
 
+    /** How many classes of trees there are of 1 to 7 nodes is well-known. */
+    private static void promise17TreeClassesOfAllTrees() {
+        int[] known = {0, 1, 1, 1, 2, 3, 6, 11};
+        for (int nodes = 1; nodes <= 7; nodes++) {
+            List<String> classes = new ArrayList<>();
+            collectClasses(".", nodes, classes);
+            due.is("classes of trees of " + nodes + " nodes", known[nodes], classes.size());
+        }
+    }
+
+    private static void collectClasses(String text, int nodes, List<String> classes) {
+        if (text.length() == nodes) {
+            for (String other : classes) {
+                if (Due.forest(other + moved(text)).tree(1, 3) == 0) {
+                    return;
+                }
+            }
+            classes.add(text);
+            return;
+        }
+        for (int lesser = 0; lesser < text.length(); lesser++) {
+            collectClasses(text + (char) ('a' + lesser), nodes, classes);
+        }
+    }
+
+    /** The text of a tree behind another one of as many nodes. */
+    private static String moved(String text) {
+        StringBuilder moved = new StringBuilder();
+        for (char letter : text.toCharArray()) {
+            moved.append(letter == '.' ? letter : (char) (letter + text.length()));
+        }
+        return moved.toString();
+    }
+
     private static void promise17TreeMirrorsAndWays() {
         TreeKayles x = Due.forest(".abc.eeeef");
         due.is("a way of four: mirrors", 1, x.tree(0, 4));
@@ -149,6 +189,7 @@ public final class LooksTest {
         }
         due.is("mirrors of a star", 0, Due.forest(Due.star(5)).tree(0, 4));
         due.is("longest way of a star", 2, Due.forest(Due.star(5)).tree(0, 5));
+        due.is("longest way with node 0 in its middle", 4, Due.forest(".aabc").tree(0, 5));
         due.is("longest way besides node 0", 4, Due.forest(".abbcd").tree(0, 5));
     }
 
@@ -359,6 +400,40 @@ public final class LooksTest {
         };
         due.is("digest()", hash(values), x.digest());
         due.is("digest() again: nothing is changed", hash(values), x.digest());
+    }
+
+    private static void promise25DigestOfOneNode() {
+        long[] values = {
+            1, 1, 0, 1, 1, 1, 1, 0, 0, 0, 1, 1,
+            1, 0, 0, 0, 1, 0,
+            1, 1, 1, 0, 0, 0,
+            0, 1, 1,
+            -1, -1, -1, -1,
+            -1,
+            Double.doubleToLongBits(1.0),
+            0, 0,
+            0,
+        };
+        due.is("digest() of one node", hash(values), Due.forest(".").digest());
+    }
+
+    private static void promise25DigestOfAStar() {
+        long[] values = {
+            5, 5, 4, 1, 1, 2, 2, 1, 0, 0, 1, 1,
+            1, 30, 0, 0, 1, 0,
+            1, 1, 0, 1, 0, 1,
+            1, 1, 0, 1, 0, 1,
+            1, 1, 0, 1, 0, 1,
+            1, 1, 0, 1, 0, 1,
+            31, 5, 2, 0, 0, 2,
+            0, 1, 4,
+            -1, -1, -1, -1,
+            -1,
+            Double.doubleToLongBits(0.2),
+            0, 0,
+            0,
+        };
+        due.is("digest() of a star: a share between 0 and 1", hash(values), Due.forest(".aaaa").digest());
     }
 
     private static long hash(long[] values) {

@@ -88,6 +88,7 @@ public final class TextsTest {
         due.is("the buffer is clear", 0, x.clearBuffer());
         due.is("load() of the empty buffer", 0, x.load());
         due.is("no nodes", 0, x.count(0));
+        due.is("none is there", 0, x.count(1));
         due.is("undo()", 4, x.undo());
         due.is("nodes after undo()", 4, x.count(0));
         due.is("undo()", 3, x.undo());
