@@ -1,13 +1,49 @@
+import java.lang.reflect.InvocationTargetException;
+import java.lang.reflect.Method;
+import java.lang.reflect.Modifier;
+import java.util.ArrayList;
+import java.util.Comparator;
+import java.util.List;
+
 /** Compares answers with the ones that are due, and counts those that are not. */
 final class Due {
+    private String test = "";
+    private int tests = 0;
     private int asked = 0;
     private int wrong = 0;
+
+    /** Runs each method of the class that tells by its name which promise or term it tests. */
+    void runEach(Class<?> of) throws IllegalAccessException {
+        List<Method> methods = new ArrayList<>(List.of(of.getDeclaredMethods()));
+        methods.removeIf(method -> !method.getName().matches("(promise|terms|exceptions)[A-Z0-9]\\w*")
+                || !Modifier.isStatic(method.getModifiers()) || method.getParameterCount() > 0);
+        methods.sort(Comparator.comparing(Method::getName));
+        for (Method method : methods) {
+            test = method.getName() + ": ";
+            method.setAccessible(true);
+            runOne(method);
+        }
+        test = "";
+    }
+
+    /** A test that stops, or that asks nothing, is wrong, too. */
+    private void runOne(Method method) throws IllegalAccessException {
+        tests++;
+        int before = asked;
+        try {
+            method.invoke(null);
+        } catch (InvocationTargetException e) {
+            wrong++;
+            System.out.println(test + "stopped by " + e.getCause());
+        }
+        is("asks something", 1, asked > before ? 1 : 0);
+    }
 
     void is(String call, long want, long got) {
         asked++;
         if (want != got) {
             wrong++;
-            System.out.println(call + " answered " + got + ", due is " + want);
+            System.out.println(test + call + " answered " + got + ", due is " + want);
         }
     }
 
@@ -27,7 +63,7 @@ final class Due {
         }
         if (!got.equals(want.getSimpleName())) {
             wrong++;
-            System.out.println(call + " gave " + got + ", due is " + want.getSimpleName());
+            System.out.println(test + call + " gave " + got + ", due is " + want.getSimpleName());
         }
         is("digest() behind the failed " + call, before, on.digest());
     }
@@ -45,7 +81,8 @@ final class Due {
     }
 
     void end(String name) {
-        System.out.println(name + ": " + (asked - wrong) + " of " + asked + " answers are as due");
+        String told = tests == 0 ? "" : tests + " tests, ";
+        System.out.println(name + ": " + told + (asked - wrong) + " of " + asked + " answers are as due");
         if (asked == 0 || wrong > 0) {
             System.exit(1);
         }
@@ -68,6 +105,11 @@ final class Due {
     /** The text of a way through so many nodes, one behind the other. */
     static String path(int nodes) {
         return ".abcdefghijklm".substring(0, nodes);
+    }
+
+    /** The text of so many lone nodes. */
+    static String lone(int nodes) {
+        return "..............".substring(0, nodes);
     }
 
     /** The text of a node with so many leaves. */
