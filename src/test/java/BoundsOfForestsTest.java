@@ -451,10 +451,19 @@ public final class BoundsOfForestsTest {
         due.is("cut(3, 4)", 1, x.cut(3, 4));
     }
 
+    private static void promise04AMirrorOfWhatIsLeftOnTheOtherSide() {
+        TreeKayles x = Due.forest(Due.path(6));
+        x.take(5);
+        due.is("cut(1, 2)", 1, x.cut(1, 2));
+    }
+
     private static void promise04NoMirrorOfWhatIsLeft() {
         TreeKayles x = Due.forest(Due.path(8));
         x.take(0);
         due.is("cut(3, 4)", 0, x.cut(3, 4));
+        TreeKayles y = Due.forest(Due.path(8));
+        y.take(7);
+        due.is("cut(3, 4) with the other end taken", 0, y.cut(3, 4));
     }
 
     private static void promise04JoinedAgain() {
@@ -522,5 +531,20 @@ public final class BoundsOfForestsTest {
         due.is("count(2)", 1, x.count(2));
         due.is("neighbours of 2", 0b1000, x.nodeOf(2, 1));
         due.is("neighbours of 1, which was taken", 0, x.nodeOf(1, 1));
+    }
+
+    private static void termsEdgesOfTakenNodesOnBothSidesDoNotCount() {
+        TreeKayles x = Due.forest(Due.path(7));
+        x.take(3);
+        due.is("count(2)", 2, x.count(2));
+        due.is("neighbours of 1", 0b0000001, x.nodeOf(1, 1));
+        due.is("neighbours of 5", 0b1000000, x.nodeOf(5, 1));
+    }
+
+    private static void termsAllEdgesOfAMiddleWereTaken() {
+        TreeKayles x = Due.forest(Due.star(13));
+        x.take(13);
+        due.is("count(2)", 0, x.count(2));
+        due.is("count(3)", 12, x.count(3));
     }
 }

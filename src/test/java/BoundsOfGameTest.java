@@ -369,6 +369,25 @@ public final class BoundsOfGameTest {
         due.is("count(7)", 0, x.count(7));
     }
 
+    private static void termsMisereOnlyTheLeastNodeWins() {
+        TreeKayles x = Due.forest(".aa.");
+        int[] wins = {1, 0, 0, 0};
+        for (int node = 0; node < 4; node++) {
+            due.is("nodeOf(" + node + ", 5)", wins[node], x.nodeOf(node, 5));
+        }
+        due.is("count(7)", 1, x.count(7));
+    }
+
+    private static void termsMisereOnlyTheGreatestNodeWins() {
+        TreeKayles x = Due.forest(Due.lone(14));
+        x.join(13, 11);
+        x.join(13, 12);
+        for (int node = 0; node < 14; node++) {
+            due.is("nodeOf(" + node + ", 5)", node == 13 ? 1 : 0, x.nodeOf(node, 5));
+        }
+        due.is("count(7)", 1, x.count(7));
+    }
+
     private static void termsLoneNodesAreOfOneClass() {
         TreeKayles x = Due.forest(Due.lone(14));
         due.is("count(4)", 1, x.count(4));

@@ -319,6 +319,12 @@ public final class BoundsOfLooksTest {
         due.is("best()", 1, x.best());
     }
 
+    private static void promise19OnlyTheLeastWins() {
+        TreeKayles x = Due.forest(Due.star(12));
+        due.is("best()", 0, x.best());
+        due.is("count(10)", 1, x.count(10));
+    }
+
     private static void promise19OnlyTheGreatestWins() {
         TreeKayles x = Due.forest(Due.lone(14));
         for (int node = 0; node < 13; node++) {
@@ -351,6 +357,13 @@ public final class BoundsOfLooksTest {
         TreeKayles x = Due.forest(Due.lone(14));
         due.is("length(true)", 14, x.length(true));
         due.is("length(false)", 14, x.length(false));
+    }
+
+    /** The shortest game takes three nodes by each move, the longest one two. */
+    private static void promise20OneTreeOfFourteen() {
+        TreeKayles x = Due.forest(Due.path(14));
+        due.is("length(true)", 5, x.length(true));
+        due.is("length(false)", 7, x.length(false));
     }
 
     private static void promise20OneMoveOrThirteen() {
@@ -644,6 +657,18 @@ public final class BoundsOfLooksTest {
 
     private static void promise25AllWereTaken() {
         TreeKayles x = allTaken();
+        due.is("digest()", Looks.digest(x, 0, 0, ""), x.digest());
+    }
+
+    private static void promise25TheGreatestNodeWasTaken() {
+        TreeKayles x = Due.forest("...");
+        x.take(2);
+        due.is("digest()", Looks.digest(x, 0, 0, ""), x.digest());
+    }
+
+    private static void promise25TheLeastNodeWasTaken() {
+        TreeKayles x = Due.forest("...");
+        x.take(0);
         due.is("digest()", Looks.digest(x, 0, 0, ""), x.digest());
     }
 

@@ -464,4 +464,74 @@ public final class BoundsOfSnapshotsTest {
             due.is("count(0)", left, x.count(0));
         }
     }
+
+    // ---- what the calls leave alone
+
+    /** All calls that change the forest, but load(); it has two nodes without an edge, and a snapshot in slot 0. */
+    private static void callAllOthers(TreeKayles x) {
+        x.node(TreeKayles.NONE);
+        x.node(0);
+        x.join(0, 1);
+        x.cut(0, 1);
+        x.take(0);
+        x.reply();
+        x.again();
+        x.goBack(0);
+        x.undo();
+    }
+
+    private static void termsTheBufferStaysBehindAllOtherCalls() {
+        TreeKayles x = Due.forest("..");
+        x.keep(0);
+        Due.type(x, "!~");
+        callAllOthers(x);
+        x.keep(1);
+        due.is("digest()", Looks.digest(x, 1, 1, "!~"), x.digest());
+        due.is("clearBuffer()", 2, x.clearBuffer());
+    }
+
+    private static void termsTheSlotsStayBehindAllOtherCalls() {
+        TreeKayles x = Due.forest(".a");
+        x.keep(0);
+        x.take(0);
+        x.keep(1);
+        x.again();
+        x.cut(0, 1);
+        callAllOthers(x);
+        Due.type(x, "..");
+        x.load();
+        x.write();
+        x.clearBuffer();
+        due.is("goBack(1)", 0, x.goBack(1));
+        due.is("count(9)", 1, x.count(9));
+        due.is("again()", 2, x.again());
+        due.is("count(2)", 1, x.count(2));
+        due.is("goBack(0)", 2, x.goBack(0));
+        due.is("count(9)", 0, x.count(9));
+        due.is("count(2)", 1, x.count(2));
+    }
+
+    private static void termsTheEmptySlotStaysEmptyBehindAllOtherCalls() {
+        TreeKayles x = Due.forest("..");
+        x.keep(0);
+        callAllOthers(x);
+        due.failsState("goBack(1)", x, () -> x.goBack(1));
+    }
+
+    private static void termsTheForestStaysBehindCallsOfTheBufferAndTheSlots() {
+        TreeKayles x = Due.forest(".ab.");
+        x.take(0);
+        long before = x.digest();
+        x.append('!');
+        x.firstError();
+        x.clearBuffer();
+        x.write();
+        x.clearBuffer();
+        due.is("digest()", before, x.digest());
+        x.keep(0);
+        x.keep(1);
+        due.is("digest() with two snapshots", Looks.digest(x, 1, 1, ""), x.digest());
+        due.is("count(1)", 2, x.count(1));
+        due.is("count(9)", 1, x.count(9));
+    }
 }
