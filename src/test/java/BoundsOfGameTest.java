@@ -411,4 +411,20 @@ public final class BoundsOfGameTest {
     private static void termsTheGreatestTreesOfOneClass() {
         due.is("branched trees of seven nodes", 1, Due.forest(".aabbcc.hiikll").count(4));
     }
+
+    private static void termsTreesOfOtherSizesAreOfOtherClasses() {
+        for (int nodes = 1; nodes < 14; nodes++) {
+            int want = nodes == 7 ? 1 : 2;
+            TreeKayles ways = Due.forest(Due.path(14));
+            ways.cut(nodes - 1, nodes);
+            due.is("ways of " + nodes + " and " + (14 - nodes), want, ways.count(4));
+            TreeKayles stars = Due.forest(Due.star(nodes - 1));
+            int middle = stars.node(TreeKayles.NONE);
+            while (stars.count(0) < 14) {
+                stars.node(middle);
+            }
+            due.is("stars of " + nodes + " and " + (14 - nodes), want, stars.count(4));
+            due.is("the class of the second one", want - 1, stars.tree(1, 3));
+        }
+    }
 }
