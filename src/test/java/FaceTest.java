@@ -1,10 +1,16 @@
+import java.io.IOException;
 import java.lang.reflect.Constructor;
 import java.lang.reflect.Field;
 import java.lang.reflect.Method;
 import java.lang.reflect.Modifier;
+import java.nio.charset.StandardCharsets;
+import java.nio.file.Files;
+import java.nio.file.Path;
 import java.util.ArrayList;
 import java.util.List;
 import java.util.TreeSet;
+import java.util.regex.Matcher;
+import java.util.regex.Pattern;
 
 /** The public face of the document, and rule 1 of LANGUAGE.md: nothing else can be seen from outside. */
 public final class FaceTest {
@@ -35,6 +41,18 @@ public final class FaceTest {
         "long digest()",
     };
 
+    /** What the interface says ahead of its calls, as the document has it. */
+    private static final List<String> HEADINGS = List.of(
+            "---- forests", "node", "join", "cut",
+            "---- the game", "take", "reply", "again",
+            "---- texts, snapshots", "append", "clearBuffer", "firstError", "load", "write", "keep", "goBack", "undo",
+            "---- looks; nothing is changed", "nodeOf", "tree", "count", "best", "length", "mirror", "ifJoined",
+            "value", "openingShare", "digest");
+
+    private static final Path PROGRAM = Path.of("src/main/java/TreeKayles.java");
+    private static final Pattern HEADING = Pattern.compile("    // (---- .*)");
+    private static final Pattern CALL = Pattern.compile("    public (?:int|long|double) (\\w+)\\(.*");
+
     private static int wrong = 0;
 
     public static void main(String[] args) throws Exception {
@@ -44,6 +62,7 @@ public final class FaceTest {
         constructors();
         fields();
         classesInside();
+        headings();
         System.out.println(wrong == 0 ? "FaceTest: the face is the document's" : "FaceTest: " + wrong + " faults");
         if (wrong > 0) {
             System.exit(1);
@@ -125,5 +144,19 @@ public final class FaceTest {
             must(Modifier.isPrivate(one.getModifiers()), one + " is private");
             must(Modifier.isStatic(one.getModifiers()), one + " is static");
         }
+    }
+
+    /** The headings and the calls, in the order in which they stand in the program's text. */
+    private static void headings() throws IOException {
+        List<String> found = new ArrayList<>();
+        for (String line : Files.readAllLines(PROGRAM, StandardCharsets.UTF_8)) {
+            Matcher heading = HEADING.matcher(line);
+            Matcher call = CALL.matcher(line);
+            if (call.matches() || heading.matches()) {
+                found.add(call.matches() ? call.group(1) : heading.group(1));
+            }
+        }
+        int face = Math.min(HEADINGS.size(), found.size());
+        must(found.subList(0, face).equals(HEADINGS), "the headings and calls are " + HEADINGS + "; they are " + found);
     }
 }
